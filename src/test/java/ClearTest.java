@@ -5,6 +5,7 @@ public final class ClearTest {
     public static void main(String[] args) {
         groups();
         clearsAll();
+        counterIsNought();
         keepsWhatItClears();
         entriesOfOthersStay();
         refusals();
@@ -39,6 +40,15 @@ public final class ClearTest {
         x.cycle(true);
         Steps.goodCycles(x, 1, 2, true);
         due.is(1, x.lamp(0), "good cycles are 0: two do not darken");
+    }
+
+    private static void counterIsNought() {
+        TroubleMemory x = new TroubleMemory(4);
+        x.code(5, 126, 127);
+        x.event(1, true);
+        x.clear(0);
+        due.is(80, x.event(1, true), "126 is no test");
+        due.is(39, x.event(1, true), "127 is one");
     }
 
     private static void keepsWhatItClears() {

@@ -72,7 +72,7 @@ public final class StartTest {
 
     private static void countersAndConditions() {
         TroubleMemory x = new TroubleMemory(4);
-        x.code(5, 64, 64);
+        x.code(5, 126, 64);
         x.event(1, true);
         x.enable(1, false);
         x.enable(31, false);
