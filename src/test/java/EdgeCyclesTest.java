@@ -122,7 +122,8 @@ public final class EdgeCyclesTest {
         TroubleMemory x = confirmed(1);
         x.event(1, false);
         x.event(1, false);
-        for (int good = 1; x.cycle(false) < 240; good++) {
+        for (int good = 1; good <= 237; good++) {
+            x.cycle(false);
             Edges.due(good >= 3 ? 40 : 168, x.event(1, false), "status with " + good + " good cycles");
         }
         Edges.due(175, Steps.fail(x, 1), "status behind a failure");

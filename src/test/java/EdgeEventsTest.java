@@ -82,6 +82,7 @@ public final class EdgeEventsTest {
     static void theCounterIsAt0() {
         Edges.due(39, steps(127, 1).event(1, true), "0 and 127");
         Edges.due(80, steps(126, 1).event(1, true), "0 and 126");
+        Edges.due(80, steps(1, 127).event(1, false), "0 less 127");
         TroubleMemory x = steps(1, 64);
         Edges.due(80, x.event(1, false), "0 less 64");
         Edges.due(0, x.event(1, false), "0 less 128");

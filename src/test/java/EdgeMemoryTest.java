@@ -51,6 +51,18 @@ public final class EdgeMemoryTest {
         Edges.due(508, x.snapshot(1, 1, 1), "its last snapshot");
     }
 
+    /** No 512 calls come so far: this is more than the document asks for. */
+    @Holds(Sentence.HAPPENED)
+    static void atMost255() {
+        TroubleMemory x = Steps.memory(1, 5);
+        for (int i = 1; i <= 257; i++) {
+            Steps.fail(x, 1);
+            Edges.due(Math.min(i, 255), x.stored(0, 1), "how often it happened, behind failure " + i);
+            Edges.due(3 * i - 2, x.snapshot(1, 1, 1), "its last snapshot, behind failure " + i);
+            Steps.pass(x, 1);
+        }
+    }
+
     @Holds(Sentence.HAPPENED)
     static void inAFullMemoryTheEntryKeepsItsPlace() {
         TroubleMemory x = Steps.memory(2, 5, 5);
@@ -467,5 +479,20 @@ public final class EdgeMemoryTest {
         Edges.due(1, x.displaced(21), "displaced(21)");
         Edges.due(21, x.displaced(440), "displaced(440)");
         Edges.due(-1, x.displaced(441), "displaced(441)");
+    }
+
+    /** No 512 calls come so far: this is more than the document asks for. */
+    @Holds(Sentence.DISPLACED)
+    static void theFirst500() {
+        TroubleMemory x = Steps.memory(1, 9, 8);
+        for (int i = 0; i <= 501; i++) {
+            Steps.fail(x, 1);
+            Steps.fail(x, 2);
+            Edges.due(i < 500 ? 1 : -1, x.displaced(i), "displaced(" + i + ")");
+            Edges.due(2, x.stored(0, 0), "whose the entry is");
+            x.clear(0);
+        }
+        Edges.due(1, x.displaced(499), "displaced(499) at the end");
+        Edges.due(-1, x.displaced(500), "displaced(500) at the end");
     }
 }

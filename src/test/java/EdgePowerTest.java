@@ -43,6 +43,20 @@ public final class EdgePowerTest {
     }
 
     @Holds(Sentence.START)
+    static void codesWithoutAnEntryAreNotCounted() {
+        TroubleMemory x = Steps.memory(2, 5, 6, 7);
+        Steps.fail(x, 2);
+        x.cycle(true);
+        x.cut();
+        Edges.due(1, x.start(), "one of three, FAILED");
+        Steps.pass(x, 2);
+        x.cycle(true);
+        Steps.fail(x, 3);
+        x.cut();
+        Edges.due(2, x.start(), "two of three, one of which passed");
+    }
+
+    @Holds(Sentence.START)
     static void thePowerIsOnAgain() {
         TroubleMemory x = new TroubleMemory(1);
         for (int i = 1; i <= 3; i++) {
@@ -174,6 +188,17 @@ public final class EdgePowerTest {
         Steps.goodCycles(x, 1, 1, true);
         Edges.due(104, x.status(1), "the third good cycle darkens");
         Edges.due(175, Steps.fail(x, 1), "the trips were kept: lit at once");
+    }
+
+    @Holds(Sentence.AS_KEPT)
+    static void tripsComeBack() {
+        TroubleMemory x = Steps.memory(1, 5, 5);
+        Steps.fail(x, 2);
+        x.cycle(true);
+        Steps.fail(x, 1);
+        restart(x);
+        Edges.due(39, Steps.fail(x, 1), "no trip was kept");
+        Edges.due(175, Steps.fail(x, 2), "one trip was kept");
     }
 
     @Holds(Sentence.AS_KEPT)

@@ -186,4 +186,17 @@ public final class EdgeTellingTest {
         Twins.refuse(-1, without, "displaced(0)", x -> x.displaced(0));
         Edges.due(5, State.BUSY.make().displaced(0), "displaced(0), the only one");
     }
+
+    @Holds(Sentence.DISPLACED_UNKNOWN)
+    static void besideThree() {
+        TroubleMemory x = Steps.memory(1, 9, 8, 7, 6);
+        for (int n = 1; n <= 4; n++) {
+            Steps.fail(x, n);
+        }
+        int[] others = {LEAST, -3, -2, -1, 3, 4, MOST};
+        for (int i : others) {
+            Edges.due(-1, x.displaced(i), "displaced(" + i + ")");
+        }
+        Edges.due(3, x.displaced(2), "displaced(2), the last one");
+    }
 }

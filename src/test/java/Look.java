@@ -83,7 +83,9 @@ final class Look {
     }
 
     private void goUp() {
-        allOn();
+        for (int condition = 0; condition <= 31; condition++) {
+            switchOn(condition);
+        }
         countAbove();
         for (int n : codes) {
             for (int i = 1; i <= 3; i++) {
@@ -95,7 +97,10 @@ final class Look {
     }
 
     private void goDown() {
-        allOn();
+        // The first answer does not tell whether that one was off, so that both ways are gone.
+        for (int condition = 31; condition >= 0; condition--) {
+            switchOn(condition);
+        }
         for (int i = 1; i <= 3; i++) {
             for (int n : codes) {
                 row("event(" + n + ", false)", x.event(n, false));
@@ -110,10 +115,8 @@ final class Look {
         tell();
     }
 
-    private void allOn() {
-        for (int condition = 0; condition <= 31; condition++) {
-            row("enable(" + condition + ", true)", x.enable(condition, true));
-        }
+    private void switchOn(int condition) {
+        row("enable(" + condition + ", true)", x.enable(condition, true));
     }
 
     /** A code that is put under each of the others tells how many are above that one. */
